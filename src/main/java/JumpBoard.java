@@ -36,24 +36,30 @@ public final class JumpBoard {
     private static final int WIDE = 2000;
     private static final int LOST_IN_0 = -100;
 
-    private final Rules rules;
-    private final Player player;
-    private final MoveList list;
-    private final Position after;
+    private final Rules rules = new Rules();
+    /** Made when first asked for: most games never come to an ending. */
+    private Endings endings = null;
+
     /** The game so far: undo needs no more than going one place back. */
-    private final Position[] line;
-    private int latest;
+    private final Position[] line = new Position[MOST_PLAYED + 1];
+    private int latest = 0;
+
+    /** The moves of the present position, and the position behind one of them. */
+    private final MoveList list = new MoveList();
+    private final Position after = new Position();
+
+    /** One list and one position for each depth that is left, used again in every search. */
+    private final MoveList[] lists = new MoveList[DEEPEST + 1];
+    private final Position[] spots = new Position[DEEPEST + 1];
 
     public JumpBoard() {
-        rules = new Rules();
-        player = new Player(rules);
-        list = new MoveList();
-        after = new Position();
-        line = new Position[MOST_PLAYED + 1];
-        for (int i = 0; i < line.length; i++) {
+        for (int i = 0; i <= MOST_PLAYED; i++) {
             line[i] = new Position();
         }
-        latest = 0;
+        for (int depth = 0; depth <= DEEPEST; depth++) {
+            lists[depth] = new MoveList();
+            spots[depth] = new Position();
+        }
         line[0].setUp();
     }
 
@@ -157,16 +163,16 @@ public final class JumpBoard {
     }
 
     public int ways(int depth) {
-        return isDepth(depth) ? player.countWays(line[latest], depth) : BAD;
+        return isDepth(depth) ? countWays(line[latest], depth) : BAD;
     }
 
     public int verdict() {
         Position now = line[latest];
-        return now.isOneEach() ? player.judge(now) : NONE;
+        return now.isOneEach() ? judge(now) : NONE;
     }
 
     public int value(int depth) {
-        return isDepth(depth) ? player.weigh(line[latest], depth, -WIDE, WIDE) : NONE;
+        return isDepth(depth) ? weigh(line[latest], depth, -WIDE, WIDE) : NONE;
     }
 
     public int best(int depth) {
@@ -179,7 +185,7 @@ public final class JumpBoard {
         for (int i = 0; i < count; i++) {
             after.follow(line[latest], list.packed[i]);
             // A value that is not below the least one need not be exact: it is not chosen.
-            int found = player.weigh(after, depth - 1, -WIDE, least);
+            int found = weigh(after, depth - 1, -WIDE, least);
             if (found < least) {
                 least = found;
                 chosen = i;
@@ -192,6 +198,66 @@ public final class JumpBoard {
         line[0].copy(line[latest]);
         line[0].kingSteps = 0;
         latest = 0;
+    }
+
+    private int countWays(Position position, int depth) {
+        if (depth <= 0) {
+            return 1;
+        }
+        MoveList choices = lists[depth];
+        rules.listMoves(position, choices);
+        if (depth == 1) {
+            return choices.count;
+        }
+        Position next = spots[depth - 1];
+        int sum = 0;
+        for (int i = 0; i < choices.count; i++) {
+            next.follow(position, choices.packed[i]);
+            sum += countWays(next, depth - 1);
+        }
+        return sum;
+    }
+
+    /**
+     * The value at a depth if it lies between low and high; otherwise some number on the same side
+     * of them, so that moves which can't matter are left out.
+     */
+    private int weigh(Position position, int depth, int low, int high) {
+        if (position.isOneEach()) {
+            return weighVerdict(judge(position));
+        }
+        if (depth <= 0) {
+            return rules.canMove(position) ? position.balance() : -LOSS;
+        }
+        MoveList choices = lists[depth];
+        rules.listMoves(position, choices);
+        if (choices.count == 0) {
+            return -LOSS;
+        }
+        Position next = spots[depth - 1];
+        int greatest = low;
+        for (int i = 0; i < choices.count && greatest < high; i++) {
+            next.follow(position, choices.packed[i]);
+            greatest = Math.max(greatest, -weigh(next, depth - 1, -high, -greatest));
+        }
+        return greatest;
+    }
+
+    private static int weighVerdict(int verdict) {
+        if (verdict == LOST_IN_0) {
+            return -LOSS;
+        }
+        if (verdict > 0) {
+            return LOSS - verdict;
+        }
+        return verdict < 0 ? -verdict - LOSS : 0;
+    }
+
+    private int judge(Position position) {
+        if (endings == null) {
+            endings = new Endings(rules);
+        }
+        return endings.look(position);
     }
 
     private static boolean isSquare(int square) {
@@ -459,84 +525,6 @@ public final class JumpBoard {
         }
     }
 
-    /** Counts and weighs what can be played from a position. */
-    private static final class Player {
-        private final Rules rules;
-        /** One list and one position for each depth that is left, used again in every search. */
-        private final MoveList[] lists = new MoveList[DEEPEST + 1];
-        private final Position[] spots = new Position[DEEPEST + 1];
-        /** Made when first asked for: most games never come to an ending. */
-        private Endings endings;
-
-        Player(Rules rules) {
-            this.rules = rules;
-            for (int depth = 0; depth <= DEEPEST; depth++) {
-                lists[depth] = new MoveList();
-                spots[depth] = new Position();
-            }
-        }
-
-        int countWays(Position position, int depth) {
-            if (depth <= 0) {
-                return 1;
-            }
-            MoveList list = lists[depth];
-            rules.listMoves(position, list);
-            if (depth == 1) {
-                return list.count;
-            }
-            Position next = spots[depth - 1];
-            int sum = 0;
-            for (int i = 0; i < list.count; i++) {
-                next.follow(position, list.packed[i]);
-                sum += countWays(next, depth - 1);
-            }
-            return sum;
-        }
-
-        /**
-         * The value at a depth if it lies between low and high; otherwise some number on the same
-         * side of them, which lets the search leave moves out that can't matter.
-         */
-        int weigh(Position position, int depth, int low, int high) {
-            if (position.isOneEach()) {
-                return weighVerdict(judge(position));
-            }
-            if (depth <= 0) {
-                return rules.canMove(position) ? position.balance() : -LOSS;
-            }
-            MoveList list = lists[depth];
-            rules.listMoves(position, list);
-            if (list.count == 0) {
-                return -LOSS;
-            }
-            Position next = spots[depth - 1];
-            int greatest = low;
-            for (int i = 0; i < list.count && greatest < high; i++) {
-                next.follow(position, list.packed[i]);
-                greatest = Math.max(greatest, -weigh(next, depth - 1, -high, -greatest));
-            }
-            return greatest;
-        }
-
-        int judge(Position position) {
-            if (endings == null) {
-                endings = new Endings(rules);
-            }
-            return endings.look(position);
-        }
-
-        private static int weighVerdict(int verdict) {
-            if (verdict == LOST_IN_0) {
-                return -LOSS;
-            }
-            if (verdict > 0) {
-                return LOSS - verdict;
-            }
-            return verdict < 0 ? -verdict - LOSS : 0;
-        }
-    }
-
     /**
      * The verdicts on all endings of one piece against one, as seen by the side to move: black's
      * endings are white's with the board turned round, so that one table serves both sides.
@@ -616,8 +604,8 @@ public final class JumpBoard {
 
         /**
          * Finds wins in 1, losses in 2, wins in 3 and so on: a win is one move before a loss and a
-         * loss one before a win, so wins have odd numbers alone and losses even ones. A win and the
-         * losses behind it that found nothing new end it.
+         * loss one before a win, so wins have odd numbers alone and losses even ones. A round that
+         * finds nothing leaves the next one nothing to build on.
          */
         private void settle() {
             boolean found = true;
