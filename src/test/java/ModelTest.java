@@ -9,10 +9,9 @@ import java.util.TreeMap;
  * Compares the program with a slow model that is written from the document's words alone: boards
  * as texts, rows and columns, full searches. Random positions, random games and all endings.
  */
-public final class ModelTest {
+public final class ModelTest extends Trial {
     private static final String PIECES = ".wWbB";
     private static final Map<String, Integer> VERDICTS = new HashMap<>();
-    private static int wrong = 0;
 
     /** A move of the model: where it begins and ends, what it takes, and the board behind it. */
     private static final class Way {
@@ -40,15 +39,6 @@ public final class ModelTest {
 
         String order() {
             return String.format("%02d %02d %06d", begin, end, taken);
-        }
-    }
-
-    private static void due(String where, String call, long got, long want) {
-        if (got != want) {
-            wrong++;
-            if (wrong <= 40) {
-                System.out.println(where + ": " + call + " answered " + got + ", due is " + want);
-            }
         }
     }
 
@@ -245,35 +235,38 @@ public final class ModelTest {
         }
     }
 
-    private static void set(JumpBoard x, String board) {
+    private static LimitedBoard set(String board) {
+        about(board);
+        LimitedBoard x = new LimitedBoard();
         x.clear();
         for (int s = 0; s < 18; s++) {
-            due(board, "put", x.put(s, PIECES.indexOf(board.charAt(s))) ? 1 : 0, 1);
+            due("put", x.put(s, PIECES.indexOf(board.charAt(s))), true);
         }
-        due(board, "turn", x.turn(board.charAt(18) - '0') ? 1 : 0, 1);
+        due("turn", x.turn(board.charAt(18) - '0'), true);
+        return x;
     }
 
-    private static void compareBoard(JumpBoard x, String board) {
+    private static void compareBoard(LimitedBoard x, String board) {
         for (int s = 0; s < 18; s++) {
-            due(board, "at(" + s + ")", x.at(s), PIECES.indexOf(board.charAt(s)));
+            due("at(" + s + ")", x.at(s), PIECES.indexOf(board.charAt(s)));
         }
-        due(board, "side()", x.side(), board.charAt(18) - '0');
+        due("side()", x.side(), board.charAt(18) - '0');
         List<Way> ways = ways(board);
-        due(board, "moves()", x.moves(), ways.size());
+        due("moves()", x.moves(), ways.size());
         for (int i = 0; i < ways.size(); i++) {
-            due(board, "move(" + i + ", 0)", x.move(i, 0), ways.get(i).begin);
-            due(board, "move(" + i + ", 1)", x.move(i, 1), ways.get(i).end);
-            due(board, "move(" + i + ", 2)", x.move(i, 2), ways.get(i).taken);
+            due("move(" + i + ", 0)", x.move(i, 0), ways.get(i).begin);
+            due("move(" + i + ", 1)", x.move(i, 1), ways.get(i).end);
+            due("move(" + i + ", 2)", x.move(i, 2), ways.get(i).taken);
         }
-        due(board, "move(" + ways.size() + ", 0)", x.move(ways.size(), 0), -1);
-        due(board, "verdict()", x.verdict(), oneEach(board) ? VERDICTS.get(board) : -2000);
+        due("move(" + ways.size() + ", 0)", x.move(ways.size(), 0), -1);
+        due("verdict()", x.verdict(), oneEach(board) ? VERDICTS.get(board) : -2000);
     }
 
-    private static void compareSearch(JumpBoard x, String board, int deepest) {
+    private static void compareSearch(LimitedBoard x, String board, int deepest) {
         for (int depth = 0; depth <= deepest; depth++) {
-            due(board, "ways(" + depth + ")", x.ways(depth), count(board, depth));
-            due(board, "value(" + depth + ")", x.value(depth), value(board, depth));
-            due(board, "best(" + depth + ")", x.best(depth), depth == 0 ? -1 : best(board, depth));
+            due("ways(" + depth + ")", x.ways(depth), count(board, depth));
+            due("value(" + depth + ")", x.value(depth), value(board, depth));
+            due("best(" + depth + ")", x.best(depth), depth == 0 ? -1 : best(board, depth));
         }
     }
 
@@ -295,27 +288,26 @@ public final class ModelTest {
         return quiet == 20 ? 3 : 0;
     }
 
-    private static void compareGame(JumpBoard x, String first, Random random) {
+    /** Plays and takes back at random, as long as the object may be used. */
+    private static void compareGame(LimitedBoard x, String first, Random random) {
         List<String> boards = new ArrayList<>(List.of(first));
         List<Integer> quiets = new ArrayList<>(List.of(0));
-        for (int turn = 0; turn < 160; turn++) {
+        while (x.calls() + 4 <= LimitedBoard.MOST_CALLS) {
             int played = boards.size() - 1;
             String board = boards.get(played);
             int quiet = quiets.get(played);
-            List<Way> ways = ways(board);
-            due(board, "over()", x.over(), over(board, quiet));
-            due(board, "quiet()", x.quiet(), quiet);
-            due(board, "played()", x.played(), played);
-            if (random.nextInt(8) == 0) {
-                due(board, "undo()", x.undo() ? 1 : 0, played > 0 ? 1 : 0);
+            about(board);
+            if (random.nextInt(12) == 0) {
+                due("undo()", x.undo(), played > 0);
                 if (played > 0) {
                     boards.remove(played);
                     quiets.remove(played);
                 }
             } else {
+                List<Way> ways = ways(board);
                 int i = random.nextInt(ways.size() + 1);
                 boolean refused = over(board, quiet) != 0 || i == ways.size() || played == 100;
-                due(board, "play(" + i + ")", x.play(i), refused ? -1 : Integer.bitCount(ways.get(i).taken));
+                due("play(" + i + ")", x.play(i), refused ? -1 : Integer.bitCount(ways.get(i).taken));
                 if (!refused) {
                     Way way = ways.get(i);
                     boolean kingStep = "WB".indexOf(board.charAt(way.begin)) >= 0 && way.taken == 0;
@@ -323,35 +315,48 @@ public final class ModelTest {
                     quiets.add(kingStep ? quiet + 1 : 0);
                 }
             }
-            compareBoard(x, boards.get(boards.size() - 1));
+            played = boards.size() - 1;
+            due("played()", x.played(), played);
+            ask(x, boards.get(played), quiets.get(played), random);
+            ask(x, boards.get(played), quiets.get(played), random);
+        }
+    }
+
+    private static void ask(LimitedBoard x, String board, int quiet, Random random) {
+        about(board + " at QUIET " + quiet);
+        int depth = random.nextInt(3);
+        int square = random.nextInt(18);
+        switch (random.nextInt(8)) {
+            case 0 -> due("at(" + square + ")", x.at(square), PIECES.indexOf(board.charAt(square)));
+            case 1 -> due("side()", x.side(), board.charAt(18) - '0');
+            case 2 -> due("moves()", x.moves(), ways(board).size());
+            case 3 -> due("over()", x.over(), over(board, quiet));
+            case 4 -> due("quiet()", x.quiet(), quiet);
+            case 5 -> due("ways(" + depth + ")", x.ways(depth), count(board, depth));
+            case 6 -> due("value(" + depth + ")", x.value(depth), value(board, depth));
+            default -> due("best(" + depth + ")", x.best(depth), depth == 0 ? -1 : best(board, depth));
         }
     }
 
     public static void main(String[] args) {
         judgeEndings();
-        JumpBoard x = new JumpBoard();
         for (String board : VERDICTS.keySet()) {
-            set(x, board);
+            LimitedBoard x = set(board);
             compareBoard(x, board);
             compareSearch(x, board, 2);
         }
         Random random = new Random(6);
         for (int i = 0; i < 1500; i++) {
             String board = randomBoard(random, 1 + i % 18);
-            set(x, board);
+            LimitedBoard x = set(board);
             compareBoard(x, board);
             compareSearch(x, board, i % 30 == 0 ? 4 : 2);
         }
-        for (int i = 0; i < 200; i++) {
+        for (int i = 0; i < 300; i++) {
             String board = randomBoard(random, 3 + i % 9);
-            set(x, board);
-            compareGame(x, board, random);
-            x.begin();
-            compareGame(x, "wwwwww......bbbbbb0", random);
+            compareGame(set(board), board, random);
+            compareGame(new LimitedBoard(), "wwwwww......bbbbbb0", random);
         }
-        System.out.println(wrong == 0 ? "all answers are as due" : wrong + " answers are not as due");
-        if (wrong != 0) {
-            System.exit(1);
-        }
+        end();
     }
 }

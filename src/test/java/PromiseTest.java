@@ -1,86 +1,12 @@
 /** The document's promises one by one: ordinary inputs, the edges it names, and wrong inputs. */
-public final class PromiseTest {
-    private static final int MIN = Integer.MIN_VALUE;
-    private static final int MAX = Integer.MAX_VALUE;
-    private static final String FIRST = "111111000000333333";
-
-    /** A game of 100 moves that is not over then: its beginning, and the moves as letters. */
-    private static final String LONG_BOARD = "102100000000433030";
-    private static final String LONG_GAME = "bbcebbdecbeebbdebbbebaaacebebbaadbfacbdacadacbebdb"
-            + "dacbaaeacaababbadadbdaeddbeacacbdbabedbbbbcadbaaba";
-
-    private static int promise;
-    private static int wrong = 0;
-
-    private static void due(String call, long got, long want) {
-        if (got != want) {
-            wrong++;
-            System.out.println("promise " + promise + ": " + call + " answered " + got + ", due is " + want);
-        }
-    }
-
-    private static void due(String call, boolean got, boolean want) {
-        due(call, got ? 1 : 0, want ? 1 : 0);
-    }
-
-    private static void dueBoard(String when, JumpBoard x, String want) {
-        for (int s = 0; s < 18; s++) {
-            due("at(" + s + ") " + when, x.at(s), want.charAt(s) - '0');
-        }
-    }
-
-    private static JumpBoard with(String board, int side) {
-        JumpBoard x = new JumpBoard();
-        x.clear();
-        for (int s = 0; s < 18; s++) {
-            if (board.charAt(s) != '0') {
-                due("put(" + s + ", " + board.charAt(s) + ")", x.put(s, board.charAt(s) - '0'), true);
-            }
-        }
-        due("turn(" + side + ")", x.turn(side), true);
-        return x;
-    }
-
-    /** A board with single pieces on it, told as square, piece, square, piece, .. */
-    private static JumpBoard withPieces(int side, int... places) {
-        char[] board = "000000000000000000".toCharArray();
-        for (int i = 0; i < places.length; i += 2) {
-            board[places[i]] = (char) ('0' + places[i + 1]);
-        }
-        return with(new String(board), side);
-    }
-
-    private static void dueMove(JumpBoard x, int i, int begin, int end, int taken) {
+public final class PromiseTest extends Trial {
+    private static void dueMove(LimitedBoard x, int i, int begin, int end, int taken) {
         due("move(" + i + ", 0)", x.move(i, 0), begin);
         due("move(" + i + ", 1)", x.move(i, 1), end);
         due("move(" + i + ", 2)", x.move(i, 2), taken);
     }
 
-    private static void go(JumpBoard x, int begin, int end) {
-        for (int i = 0; i < x.moves(); i++) {
-            if (x.move(i, 0) == begin && x.move(i, 1) == end) {
-                x.play(i);
-                return;
-            }
-        }
-        due("a move from " + begin + " to " + end, false, true);
-    }
-
-    /** Kings walk to and fro far apart, until so many moves were played. */
-    private static JumpBoard afterKingSteps(int count) {
-        JumpBoard x = withPieces(0, 0, 2, 5, 1, 9, 3, 17, 4);
-        for (int i = 0; i < count; i++) {
-            int[] white = {0, 3};
-            int[] black = {17, 14};
-            int[] walk = i % 2 == 0 ? white : black;
-            boolean forth = i / 2 % 2 == 0;
-            go(x, forth ? walk[0] : walk[1], forth ? walk[1] : walk[0]);
-        }
-        due("quiet() after steps of kings", x.quiet(), count);
-        return x;
-    }
-
-    private static void dueFirst(String when, JumpBoard x) {
+    private static void dueFirst(String when, LimitedBoard x) {
         dueBoard(when, x, FIRST);
         due("side() " + when, x.side(), 0);
         due("played() " + when, x.played(), 0);
@@ -91,16 +17,16 @@ public final class PromiseTest {
     }
 
     private static void newObject() {
-        promise = 1;
-        dueFirst("at first", new JumpBoard());
-        JumpBoard one = new JumpBoard();
+        about("promise 1");
+        dueFirst("at first", new LimitedBoard());
+        LimitedBoard one = new LimitedBoard();
         one.play(0);
-        dueFirst("beside another one", new JumpBoard());
+        dueFirst("beside another one", new LimitedBoard());
     }
 
     private static void begin() {
-        promise = 2;
-        JumpBoard x = new JumpBoard();
+        about("promise 2");
+        LimitedBoard x = new LimitedBoard();
         x.play(0);
         x.begin();
         dueFirst("after a move and begin", x);
@@ -114,8 +40,8 @@ public final class PromiseTest {
     }
 
     private static void clear() {
-        promise = 3;
-        JumpBoard x = afterKingSteps(5);
+        about("promise 3");
+        LimitedBoard x = afterKingSteps(5);
         x.clear();
         dueBoard("after clear", x, "000000000000000000");
         due("side() after clear with black to move", x.side(), 0);
@@ -132,9 +58,9 @@ public final class PromiseTest {
     }
 
     private static void put() {
-        promise = 4;
+        about("promise 4");
         for (int s = 0; s < 18; s++) {
-            JumpBoard x = new JumpBoard();
+            LimitedBoard x = new LimitedBoard();
             x.clear();
             for (int piece : new int[] {2, 1, 4, 3, 2, 3, 4, 1, 2, 0, 1, 0, 4, 0, 3, 0}) {
                 boolean crowned = piece == 1 && s >= 15 || piece == 3 && s <= 2;
@@ -147,14 +73,14 @@ public final class PromiseTest {
         int[][] refused = {{-1, 1}, {18, 1}, {MIN, 2}, {MAX, 2}, {32, 2}, {7, -1}, {7, 5}, {7, MIN}, {7, MAX},
             {15, 1}, {16, 1}, {17, 1}, {0, 3}, {1, 3}, {2, 3}, {18, 0}, {-1, 5}};
         for (int[] wish : refused) {
-            JumpBoard x = afterKingSteps(3);
+            LimitedBoard x = afterKingSteps(3);
             due("put(" + wish[0] + ", " + wish[1] + ")", x.put(wish[0], wish[1]), false);
             due("played() after it", x.played(), 3);
             due("quiet() after it", x.quiet(), 3);
             dueBoard("after it", x, "200001000300004000");
             due("undo() after it", x.undo(), true);
         }
-        JumpBoard x = afterKingSteps(3);
+        LimitedBoard x = afterKingSteps(3);
         due("put(7, 0)", x.put(7, 0), true);
         due("played() after put", x.played(), 0);
         due("quiet() after put", x.quiet(), 0);
@@ -169,10 +95,10 @@ public final class PromiseTest {
     }
 
     private static void turn() {
-        promise = 5;
+        about("promise 5");
         for (int side = 0; side <= 1; side++) {
             for (int steps = 2; steps <= 3; steps++) {
-                JumpBoard x = afterKingSteps(steps);
+                LimitedBoard x = afterKingSteps(steps);
                 due("turn(" + side + ")", x.turn(side), true);
                 due("side()", x.side(), side);
                 due("played()", x.played(), 0);
@@ -183,7 +109,7 @@ public final class PromiseTest {
             }
         }
         for (int side : new int[] {-1, 2, 3, MIN, MAX}) {
-            JumpBoard x = afterKingSteps(3);
+            LimitedBoard x = afterKingSteps(3);
             due("turn(" + side + ")", x.turn(side), false);
             due("side()", x.side(), 1);
             due("played()", x.played(), 3);
@@ -193,18 +119,18 @@ public final class PromiseTest {
     }
 
     private static void at() {
-        promise = 6;
-        JumpBoard x = withPieces(1, 0, 1, 1, 2, 3, 3, 4, 4, 12, 1, 15, 3, 16, 4, 17, 2);
+        about("promise 6");
+        LimitedBoard x = withPieces(1, 0, 1, 1, 2, 3, 3, 4, 4, 12, 1, 15, 3, 16, 4, 17, 2);
         dueBoard("put so", x, "120340000000100342");
         for (int square : new int[] {-1, 18, 32, MIN, MAX}) {
-            due("at(" + square + ")", x.at(square), JumpBoard.BAD);
+            due("at(" + square + ")", x.at(square), BAD);
         }
-        dueBoard("at first", new JumpBoard(), FIRST);
+        dueBoard("at first", new LimitedBoard(), FIRST);
     }
 
     private static void side() {
-        promise = 7;
-        JumpBoard x = new JumpBoard();
+        about("promise 7");
+        LimitedBoard x = new LimitedBoard();
         due("side()", x.side(), 0);
         x.play(0);
         due("side() after a move", x.side(), 1);
@@ -217,8 +143,8 @@ public final class PromiseTest {
     }
 
     private static void moves() {
-        promise = 8;
-        due("moves() at first", new JumpBoard().moves(), 5);
+        about("promise 8");
+        due("moves() at first", new LimitedBoard().moves(), 5);
         due("moves() of a king in the middle", withPieces(0, 7, 2).moves(), 4);
         due("moves() of a white man there", withPieces(0, 7, 1).moves(), 2);
         due("moves() of a black man there", withPieces(1, 7, 3).moves(), 2);
@@ -229,7 +155,7 @@ public final class PromiseTest {
         due("moves() of a king on a ring both ways", withPieces(0, 1, 2, 3, 3, 4, 3, 9, 3, 10, 3).moves(), 1);
         due("moves() with the square behind held", withPieces(0, 0, 2, 3, 3, 7, 3).moves(), 0);
         due("moves() over own pieces", withPieces(0, 0, 2, 3, 1).moves(), 2);
-        JumpBoard drawn = afterKingSteps(20);
+        LimitedBoard drawn = afterKingSteps(20);
         due("over()", drawn.over(), 3);
         due("moves() when drawn", drawn.moves(), 2);
         dueMove(drawn, 0, 0, 3, 0);
@@ -237,8 +163,8 @@ public final class PromiseTest {
     }
 
     private static void move() {
-        promise = 9;
-        JumpBoard x = new JumpBoard();
+        about("promise 9");
+        LimitedBoard x = new LimitedBoard();
         int[][] first = {{3, 6}, {3, 7}, {4, 7}, {4, 8}, {5, 8}};
         for (int i = 0; i < first.length; i++) {
             dueMove(x, i, first[i][0], first[i][1], 0);
@@ -259,32 +185,32 @@ public final class PromiseTest {
         due("moves() of a man with jumps to both sides", x.moves(), 2);
         dueMove(x, 0, 7, 12, 1 << 9);
         dueMove(x, 1, 7, 14, 1 << 10);
-        wrongMoves(new JumpBoard(), 5);
+        wrongMoves(new LimitedBoard(), 5);
         wrongMoves(withPieces(0), 0);
     }
 
-    private static void wrongMoves(JumpBoard x, int count) {
+    private static void wrongMoves(LimitedBoard x, int count) {
         for (int what = 0; what <= 2; what++) {
             for (int i : new int[] {-1, count, count + 1, 72, 73, MIN, MAX}) {
-                due("move(" + i + ", " + what + ")", x.move(i, what), JumpBoard.BAD);
+                due("move(" + i + ", " + what + ")", x.move(i, what), BAD);
             }
         }
         for (int what : new int[] {-1, 3, MIN, MAX}) {
-            due("move(0, " + what + ")", x.move(0, what), JumpBoard.BAD);
-            due("move(-1, " + what + ")", x.move(-1, what), JumpBoard.BAD);
+            due("move(0, " + what + ")", x.move(0, what), BAD);
+            due("move(-1, " + what + ")", x.move(-1, what), BAD);
         }
     }
 
     private static void play() {
-        promise = 10;
-        JumpBoard x = new JumpBoard();
+        about("promise 10");
+        LimitedBoard x = new LimitedBoard();
         due("play(1)", x.play(1), 0);
         dueBoard("after it", x, "111011010000333333");
         for (int i : new int[] {-1, 99, MIN, MAX}) {
-            due("play(" + i + ")", x.play(i), JumpBoard.BAD);
+            due("play(" + i + ")", x.play(i), BAD);
         }
         due("played() after refusals", x.played(), 1);
-        due("play(moves())", x.play(x.moves()), JumpBoard.BAD);
+        due("play(moves())", x.play(x.moves()), BAD);
 
         x = withPieces(0, 1, 2, 3, 3, 4, 4, 9, 3, 10, 3);
         due("play(0) round a ring", x.play(0), 4);
@@ -302,22 +228,22 @@ public final class PromiseTest {
         crowning();
         x = withPieces(0, 1, 2, 4, 4);
         due("play(0) that wins", x.play(0), 1);
-        due("play(0) after the win", x.play(0), JumpBoard.BAD);
+        due("play(0) after the win", x.play(0), BAD);
         x = afterKingSteps(20);
-        due("play(0) when drawn", x.play(0), JumpBoard.BAD);
+        due("play(0) when drawn", x.play(0), BAD);
         due("played() when drawn", x.played(), 20);
 
-        x = longGame();
-        due("play(0) after 100 moves", x.play(0), JumpBoard.BAD);
+        x = longGame(100);
+        due("play(0) after 100 moves", x.play(0), BAD);
         due("played()", x.played(), 100);
         due("over()", x.over(), 0);
         due("undo()", x.undo(), true);
         due("play(0) after 99 moves", x.play(0), 0);
-        due("play(0) after 100 moves again", x.play(0), JumpBoard.BAD);
+        due("play(0) after 100 moves again", x.play(0), BAD);
     }
 
     private static void crowning() {
-        JumpBoard x = withPieces(0, 12, 1, 17, 4);
+        LimitedBoard x = withPieces(0, 12, 1, 17, 4);
         go(x, 12, 15);
         due("a white man who steps to row 5", x.at(15), 2);
         x = withPieces(1, 5, 3, 17, 2);
@@ -340,33 +266,15 @@ public final class PromiseTest {
         due("a king goes back", x.at(12), 2);
     }
 
-    private static JumpBoard longGame() {
-        JumpBoard x = with(LONG_BOARD, 0);
-        for (int i = 0; i < LONG_GAME.length(); i++) {
-            boolean accepted = x.play(LONG_GAME.charAt(i) - 'a') >= 0;
-            due("the long game's move " + i, accepted, true);
-        }
-        return x;
-    }
-
     private static void undo() {
-        promise = 11;
-        due("undo() at first", new JumpBoard().undo(), false);
-        JumpBoard x = longGame();
-        String[] boards = new String[101];
-        int[] quiets = new int[101];
-        JumpBoard again = with(LONG_BOARD, 0);
-        for (int i = 0; i <= 100; i++) {
-            boards[i] = text(again);
-            quiets[i] = again.quiet();
-            again.play(i < 100 ? LONG_GAME.charAt(i) - 'a' : -1);
+        about("promise 11");
+        due("undo() at first", new LimitedBoard().undo(), false);
+        for (int kept = 0; kept <= 100; kept++) {
+            backTo(kept);
         }
-        for (int i = 99; i >= 0; i--) {
+        LimitedBoard x = longGame(100);
+        for (int i = 0; i < 100; i++) {
             due("undo()", x.undo(), true);
-            due("the board after undo as before", text(x).equals(boards[i]), true);
-            due("quiet() after undo", x.quiet(), quiets[i]);
-            due("side() after undo", x.side(), i % 2);
-            due("played() after undo", x.played(), i);
         }
         due("undo() when all is taken back", x.undo(), false);
         dueBoard("when all is taken back", x, LONG_BOARD);
@@ -379,17 +287,24 @@ public final class PromiseTest {
         due("over() then", x.over(), 0);
     }
 
-    private static String text(JumpBoard x) {
-        StringBuilder text = new StringBuilder();
-        for (int s = 0; s < 18; s++) {
-            text.append(x.at(s));
+    /** The long game, taken back until so many moves are left, is as if no more had been played. */
+    private static void backTo(int kept) {
+        LimitedBoard x = longGame(100);
+        for (int i = 100; i > kept; i--) {
+            due("undo()", x.undo(), true);
         }
-        return text.toString();
+        LimitedBoard fresh = longGame(kept);
+        String when = "() with " + kept + " moves left";
+        due("played" + when, x.played(), kept);
+        due("board" + when, board(x), board(fresh));
+        due("moves" + when, moves(x), moves(fresh));
+        due("quiet" + when, x.quiet(), fresh.quiet());
+        due("side" + when, x.side(), kept % 2);
     }
 
     private static void played() {
-        promise = 12;
-        JumpBoard x = new JumpBoard();
+        about("promise 12");
+        LimitedBoard x = new LimitedBoard();
         for (int i = 0; i < 4; i++) {
             due("played()", x.played(), i);
             x.play(0);
@@ -408,14 +323,14 @@ public final class PromiseTest {
     }
 
     private static void over() {
-        promise = 13;
-        due("over() at first", new JumpBoard().over(), 0);
+        about("promise 13");
+        due("over() at first", new LimitedBoard().over(), 0);
         due("over() of an empty board", withPieces(0).over(), 2);
         due("over() of an empty board, black to move", withPieces(1).over(), 1);
         due("over() when white is blocked", withPieces(0, 0, 2, 3, 3, 7, 3).over(), 2);
         due("over() when black is blocked", withPieces(1, 17, 4, 14, 1, 10, 2).over(), 1);
         due("over() when only a jump is left", withPieces(0, 0, 2, 3, 3).over(), 0);
-        JumpBoard x = afterKingSteps(19);
+        LimitedBoard x = afterKingSteps(19);
         due("over() at QUIET 19", x.over(), 0);
         x = afterKingSteps(20);
         due("over() at QUIET 20", x.over(), 3);
@@ -428,25 +343,10 @@ public final class PromiseTest {
         due("over() at QUIET 20 without a move", x.over(), 1);
     }
 
-    /** The twentieth step of a king takes black's last move away. */
-    private static JumpBoard blockedAtQuiet20() {
-        JumpBoard x = withPieces(1, 1, 2, 6, 2, 10, 2, 4, 2, 0, 4);
-        for (int i = 0; i < 8; i++) {
-            boolean forth = i % 2 == 0;
-            go(x, forth ? 0 : 3, forth ? 3 : 0);
-            go(x, forth ? 4 : 8, forth ? 8 : 4);
-        }
-        go(x, 0, 3);
-        go(x, 4, 7);
-        go(x, 3, 0);
-        go(x, 6, 3);
-        return x;
-    }
-
     private static void quiet() {
-        promise = 14;
-        due("quiet() at first", new JumpBoard().quiet(), 0);
-        JumpBoard x = new JumpBoard();
+        about("promise 14");
+        due("quiet() at first", new LimitedBoard().quiet(), 0);
+        LimitedBoard x = new LimitedBoard();
         x.play(0);
         due("quiet() after a man's step", x.quiet(), 0);
         x = afterKingSteps(4);
@@ -477,14 +377,14 @@ public final class PromiseTest {
     }
 
     private static void ways() {
-        promise = 15;
-        JumpBoard x = new JumpBoard();
+        about("promise 15");
+        LimitedBoard x = new LimitedBoard();
         int[] first = {1, 5, 25, 106, 369};
         for (int depth = 0; depth <= 4; depth++) {
             due("ways(" + depth + ")", x.ways(depth), first[depth]);
         }
         for (int depth : new int[] {-1, 5, MIN, MAX}) {
-            due("ways(" + depth + ")", x.ways(depth), JumpBoard.BAD);
+            due("ways(" + depth + ")", x.ways(depth), BAD);
         }
         dueFirst("after counting", x);
         x = withPieces(0);
@@ -495,7 +395,7 @@ public final class PromiseTest {
         due("ways(1) of the winning jump", x.ways(1), 1);
         due("ways(2) behind the winning jump", x.ways(2), 0);
         x = afterKingSteps(20);
-        JumpBoard fresh = with(text(x), x.side());
+        LimitedBoard fresh = with(board(x), x.side());
         for (int depth = 0; depth <= 4; depth++) {
             due("ways(" + depth + ") at QUIET 20", x.ways(depth), fresh.ways(depth));
         }
@@ -503,13 +403,13 @@ public final class PromiseTest {
     }
 
     private static void verdict() {
-        promise = 16;
-        due("verdict() at first", new JumpBoard().verdict(), JumpBoard.NONE);
-        due("verdict() of an empty board", withPieces(0).verdict(), JumpBoard.NONE);
-        due("verdict() of one piece", withPieces(0, 3, 2).verdict(), JumpBoard.NONE);
-        due("verdict() of two against one", withPieces(0, 3, 2, 4, 2, 17, 4).verdict(), JumpBoard.NONE);
-        due("verdict() of one against two", withPieces(0, 3, 2, 16, 4, 17, 4).verdict(), JumpBoard.NONE);
-        due("verdict() of two of one side", withPieces(0, 3, 2, 4, 2).verdict(), JumpBoard.NONE);
+        about("promise 16");
+        due("verdict() at first", new LimitedBoard().verdict(), NONE);
+        due("verdict() of an empty board", withPieces(0).verdict(), NONE);
+        due("verdict() of one piece", withPieces(0, 3, 2).verdict(), NONE);
+        due("verdict() of two against one", withPieces(0, 3, 2, 4, 2, 17, 4).verdict(), NONE);
+        due("verdict() of one against two", withPieces(0, 3, 2, 16, 4, 17, 4).verdict(), NONE);
+        due("verdict() of two of one side", withPieces(0, 3, 2, 4, 2).verdict(), NONE);
 
         due("verdict() of kings in corners", withPieces(0, 0, 2, 17, 4).verdict(), 7);
         due("verdict() of the same for black", withPieces(1, 0, 2, 17, 4).verdict(), 7);
@@ -518,46 +418,35 @@ public final class PromiseTest {
         due("verdict() of a blocked white man", withPieces(0, 12, 1, 15, 3).verdict(), -100);
         due("verdict() of a blocked black man", withPieces(1, 5, 3, 2, 2).verdict(), -100);
 
-        JumpBoard x = withPieces(0, 0, 2, 17, 4);
-        int[] line = {7, -6, 5, -4, 3, -2, 1, JumpBoard.NONE};
+        LimitedBoard x = withPieces(0, 0, 2, 17, 4);
+        int[] line = {7, -6, 5, -4, 3, -2, 1, NONE};
         for (int i = 0; i < line.length; i++) {
             due("verdict() after " + i + " best moves", x.verdict(), line[i]);
             x.play(x.best(1));
         }
         x = quietEnding();
         due("over()", x.over(), 3);
-        due("verdict() at QUIET 20", x.verdict(), with(text(x), x.side()).verdict());
+        due("verdict() at QUIET 20", x.verdict(), with(board(x), x.side()).verdict());
         due("verdict() at QUIET 20 is a win", x.verdict() > 0, true);
     }
 
-    /** A won ending in which 20 steps of kings were played. */
-    private static JumpBoard quietEnding() {
-        JumpBoard x = withPieces(0, 0, 2, 17, 4);
-        for (int i = 0; i < 10; i++) {
-            boolean forth = i % 2 == 0;
-            go(x, forth ? 0 : 3, forth ? 3 : 0);
-            go(x, forth ? 17 : 14, forth ? 14 : 17);
-        }
-        return x;
-    }
-
     private static void value() {
-        promise = 17;
-        JumpBoard x = withPieces(0, 0, 1, 1, 2, 12, 3, 17, 4, 16, 4);
+        about("promise 17");
+        LimitedBoard x = withPieces(0, 0, 1, 1, 2, 12, 3, 17, 4, 16, 4);
         due("value(0)", x.value(0), 2 + 3 - 2 - 3 - 3);
         x.turn(1);
         due("value(0) for black", x.value(0), 2 + 3 + 3 - 2 - 3);
         for (int depth : new int[] {-1, 5, MIN, MAX}) {
-            due("value(" + depth + ")", x.value(depth), JumpBoard.NONE);
+            due("value(" + depth + ")", x.value(depth), NONE);
         }
         for (int depth = 0; depth <= 4; depth++) {
-            due("value(" + depth + ") at first", new JumpBoard().value(depth), 0);
+            due("value(" + depth + ") at first", new LimitedBoard().value(depth), 0);
             due("value(" + depth + ") without a piece", withPieces(1, 0, 2).value(depth), -1000);
             due("value(" + depth + ") when blocked", withPieces(0, 0, 2, 3, 3, 7, 3).value(depth), -1000);
             due("value(" + depth + ") when won", withPieces(0, 0, 2, 17, 4).value(depth), 993);
             due("value(" + depth + ") when drawn", withPieces(1, 12, 1, 16, 3).value(depth), 0);
             due("value(" + depth + ") when lost in 0", withPieces(0, 12, 1, 15, 4).value(depth), -1000);
-            JumpBoard lost = withPieces(0, 0, 2, 17, 4);
+            LimitedBoard lost = withPieces(0, 0, 2, 17, 4);
             lost.play(lost.best(1));
             due("value(" + depth + ") when lost in 6", lost.value(depth), -994);
             due("value(" + depth + ") against nothing", withPieces(0, 0, 1, 5, 2).value(depth), depth == 0 ? 5 : 1000);
@@ -575,32 +464,32 @@ public final class PromiseTest {
     }
 
     private static void best() {
-        promise = 18;
+        about("promise 18");
         for (int depth : new int[] {-1, 0, 5, MIN, MAX}) {
-            due("best(" + depth + ")", new JumpBoard().best(depth), JumpBoard.BAD);
-            due("best(" + depth + ") without a move", withPieces(0).best(depth), JumpBoard.BAD);
+            due("best(" + depth + ")", new LimitedBoard().best(depth), BAD);
+            due("best(" + depth + ") without a move", withPieces(0).best(depth), BAD);
         }
         for (int depth = 1; depth <= 4; depth++) {
-            due("best(" + depth + ") at first", new JumpBoard().best(depth), 0);
-            due("best(" + depth + ") without a move", withPieces(0).best(depth), JumpBoard.BAD);
+            due("best(" + depth + ") at first", new LimitedBoard().best(depth), 0);
+            due("best(" + depth + ") without a move", withPieces(0).best(depth), BAD);
             due("best(" + depth + ") of the only move", withPieces(0, 1, 2, 4, 4).best(depth), 0);
-            JumpBoard drawn = afterKingSteps(20);
-            due("best(" + depth + ") when drawn", drawn.best(depth), with(text(drawn), 0).best(depth));
+            LimitedBoard drawn = afterKingSteps(20);
+            due("best(" + depth + ") when drawn", drawn.best(depth), with(board(drawn), 0).best(depth));
             due("best(" + depth + ") when drawn is a move", drawn.best(depth) >= 0, true);
-            leastOfTheLeast(new JumpBoard(), depth);
+            leastOfTheLeast(new LimitedBoard(), depth);
             leastOfTheLeast(with(LONG_BOARD, 0), depth);
             leastOfTheLeast(withPieces(0, 7, 2, 5, 2, 13, 4, 17, 4, 12, 3), depth);
             leastOfTheLeast(withPieces(1, 7, 2, 5, 1, 13, 4), depth);
         }
         // Of two jumps the one that takes a king leaves black less.
-        JumpBoard x = withPieces(0, 1, 1, 3, 3, 4, 4, 16, 4, 0, 1);
+        LimitedBoard x = withPieces(0, 1, 1, 3, 3, 4, 4, 16, 4, 0, 1);
         due("moves()", x.moves(), 3);
         due("best(1)", x.move(x.best(1), 2), 1 << 4);
     }
 
-    private static void leastOfTheLeast(JumpBoard x, int depth) {
+    private static void leastOfTheLeast(LimitedBoard x, int depth) {
         int least = MAX;
-        int chosen = JumpBoard.BAD;
+        int chosen = BAD;
         for (int i = 0; i < x.moves(); i++) {
             x.play(i);
             int value = x.value(depth - 1);
@@ -610,7 +499,7 @@ public final class PromiseTest {
                 chosen = i;
             }
         }
-        due("best(" + depth + ") of " + text(x), x.best(depth), chosen);
+        due("best(" + depth + ") of " + board(x), x.best(depth), chosen);
     }
 
     public static void main(String[] args) {
@@ -632,9 +521,6 @@ public final class PromiseTest {
         verdict();
         value();
         best();
-        System.out.println(wrong == 0 ? "all answers are as due" : wrong + " answers are not as due");
-        if (wrong != 0) {
-            System.exit(1);
-        }
+        end();
     }
 }
